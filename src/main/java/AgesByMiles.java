@@ -992,7 +992,6 @@ public final class AgesByMiles {
         private static final int ROUND = 2;
 
         private final Life mind = new Life();
-        private final int[] most = new int[MOST_THINGS];
         private final int[] row = new int[MOST_THINGS];
         final int[] bestRow = new int[MOST_THINGS];
         int bestLength = 0;
@@ -1092,37 +1091,27 @@ public final class AgesByMiles {
         /** Finds the first row from home that is worth more than bestWorth and than which none is worth more. */
         private void seekFrom(Told told, int home) {
             mind.begin(home);
-            int rest = 0;
-            for (int i = 0; i < told.thingCount; i++) {
-                most[i] = mind.canCome(told, told.things[i].place) ? mostWorth(told, i) : 0;
-                rest += most[i];
-            }
-            seekOn(told, 0, rest);
+            seekOn(told, 0);
         }
 
-        /** By AGE each KIND's WORTH only grows or only falls, so that it is greatest at an end. */
-        private int mostWorth(Told told, int number) {
-            return Math.max(mind.worthThen(told, number, 0), mind.worthThen(told, number, told.settings[END]));
-        }
-
-        private void seekOn(Told told, int length, int rest) {
+        private void seekOn(Told told, int length) {
             if (mind.worth > bestWorth) {
                 bestWorth = mind.worth;
                 bestLength = length;
                 System.arraycopy(row, 0, bestRow, 0, length);
             }
             // Rows come by numbers and only a greater WORTH counts: what can't be greater is left.
-            if (length >= MOST_THINGS || mind.worth + rest <= bestWorth) {
+            if (length >= MOST_THINGS || mind.worth + mostToCome(told) <= bestWorth) {
                 return;
             }
             for (int i = 0; i < told.thingCount; i++) {
                 if (mind.had[i] == 0 && mind.canCome(told, told.things[i].place)) {
-                    seekWith(told, i, length, rest);
+                    seekWith(told, i, length);
                 }
             }
         }
 
-        private void seekWith(Told told, int number, int length, int rest) {
+        private void seekWith(Told told, int number, int length) {
             int at = mind.at;
             int age = mind.age;
             int worth = mind.worth;
@@ -1130,12 +1119,28 @@ public final class AgesByMiles {
             if (mind.mayTake(told, number)) {
                 mind.take(told, number);
                 row[length] = number;
-                seekOn(told, length + 1, rest - most[number]);
+                seekOn(told, length + 1);
                 mind.had[number] = 0;
             }
             mind.at = at;
             mind.age = age;
             mind.worth = worth;
+        }
+
+        /**
+         * More than this no row can add: by AGE each KIND's WORTH only grows or only falls, so that it is greatest
+         * when the THING is come to at once or at END.
+         */
+        private int mostToCome(Told told) {
+            int sum = 0;
+            for (int i = 0; i < told.thingCount; i++) {
+                int soonest = mind.age + told.miles(mind.at, told.things[i].place);
+                if (mind.had[i] == 0 && soonest <= told.settings[END]) {
+                    int latest = told.settings[END];
+                    sum += Math.max(mind.worthThen(told, i, soonest), mind.worthThen(told, i, latest));
+                }
+            }
+            return sum;
         }
 
         int strayWorth(Told told, int n, int seed) {
