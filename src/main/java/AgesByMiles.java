@@ -636,10 +636,30 @@ public final class AgesByMiles {
             if (!isPlace(place) || thingCount >= MOST_THINGS) {
                 return false;
             }
-            if (KIND_LETTERS.charAt(kind) == 'b' && !isThing(ask)) {
+            char letter = KIND_LETTERS.charAt(kind);
+            if (letter == 'b' && !isThing(ask)) {
                 return false;
             }
-            things[thingCount] = newThing(kind, thingCount, place, worth, ask);
+            switch (letter) {
+                case 'a':
+                    things[thingCount] = new Again(kind, thingCount, place, worth, ask);
+                    break;
+                case 'b':
+                    things[thingCount] = new Behind(kind, thingCount, place, worth, ask);
+                    break;
+                case 'y':
+                    things[thingCount] = new Young(kind, thingCount, place, worth, ask);
+                    break;
+                case 'g':
+                    things[thingCount] = new GrownOne(kind, thingCount, place, worth, ask);
+                    break;
+                case 'l':
+                    things[thingCount] = new Late(kind, thingCount, place, worth, ask);
+                    break;
+                default:
+                    things[thingCount] = new Once(kind, thingCount, place, worth, ask);
+                    break;
+            }
             thingCount++;
             return true;
         }
@@ -691,23 +711,6 @@ public final class AgesByMiles {
             return false;
         }
 
-        private static Thing newThing(int kind, int number, int place, int worth, int ask) {
-            switch (kind) {
-                case 1:
-                    return new Again(kind, number, place, worth, ask);
-                case 2:
-                    return new Behind(kind, number, place, worth, ask);
-                case 3:
-                    return new Young(kind, number, place, worth, ask);
-                case 4:
-                    return new GrownOne(kind, number, place, worth, ask);
-                case 5:
-                    return new Late(kind, number, place, worth, ask);
-                default:
-                    return new Once(kind, number, place, worth, ask);
-            }
-        }
-
         private static void copyRow(int[] from, int[] to) {
             System.arraycopy(from, 0, to, 0, Math.min(from.length, to.length));
         }
@@ -749,14 +752,10 @@ public final class AgesByMiles {
         }
 
         int take(Told told, int number) {
-            int gain = worthThen(told, number, age);
+            int gain = told.things[number].worthThen(age, had[number], told.settings);
             had[number]++;
             worth += gain;
             return gain;
-        }
-
-        int worthThen(Told told, int number, int then) {
-            return told.things[number].worthThen(then, had[number], told.settings);
         }
 
         int timesHad() {
@@ -890,7 +889,15 @@ public final class AgesByMiles {
                 if (faultAt >= 0) {
                     return BYTE_FAULT - faultAt;
                 }
-                if (wrong < 0 && !tell(letter, draft)) {
+                boolean right;
+                if (letter == 't') {
+                    right = draft.tellThing(kind, first, second, third);
+                } else if (letter == 'w') {
+                    right = draft.tellWay(first, second, third);
+                } else {
+                    right = draft.tellPlaces(first);
+                }
+                if (wrong < 0 && !right) {
                     wrong = start;
                 }
                 statements++;
@@ -926,17 +933,6 @@ public final class AgesByMiles {
             }
             readSign(';');
             return letter;
-        }
-
-        private boolean tell(int letter, Told draft) {
-            switch (letter) {
-                case 'n':
-                    return draft.tellPlaces(first);
-                case 'w':
-                    return draft.tellWay(first, second, third);
-                default:
-                    return draft.tellThing(kind, first, second, third);
-            }
         }
 
         private void readSign(char sign) {
@@ -1037,7 +1033,8 @@ public final class AgesByMiles {
         private boolean isWorthGoing(Told told, int place, int then) {
             for (int i = 0; i < told.thingCount; i++) {
                 Thing thing = told.things[i];
-                if (thing.place == place && thing.isOpen(mind.had) && mind.worthThen(told, i, then) > 0) {
+                if (thing.place == place && thing.isOpen(mind.had)
+                    && thing.worthThen(then, mind.had[i], told.settings) > 0) {
                     return true;
                 }
             }
@@ -1055,7 +1052,8 @@ public final class AgesByMiles {
 
         private void takeWorthy(Told told) {
             for (int i = 0; i < told.thingCount; i++) {
-                if (mind.mayTake(told, i) && mind.worthThen(told, i, mind.age) > 0) {
+                int gain = told.things[i].worthThen(mind.age, mind.had[i], told.settings);
+                if (gain > 0 && mind.mayTake(told, i)) {
                     mind.take(told, i);
                 }
             }
@@ -1072,7 +1070,8 @@ public final class AgesByMiles {
         void seekBest(Told told) {
             bestLength = 0;
             bestWorth = 0;
-            seekFrom(told, told.settings[HOME]);
+            mind.begin(told.settings[HOME]);
+            seekOn(told, 0);
         }
 
         int seekHouse(Told told) {
@@ -1080,7 +1079,8 @@ public final class AgesByMiles {
             int house = 0;
             for (int place = 0; place < told.places; place++) {
                 int before = bestWorth;
-                seekFrom(told, place);
+                mind.begin(place);
+                seekOn(told, 0);
                 if (bestWorth > before) {
                     house = place;
                 }
@@ -1088,12 +1088,7 @@ public final class AgesByMiles {
             return house;
         }
 
-        /** Finds the first row from home that is worth more than bestWorth and than which none is worth more. */
-        private void seekFrom(Told told, int home) {
-            mind.begin(home);
-            seekOn(told, 0);
-        }
-
+        /** Goes through the rows that go on from the one in mind, for one that is worth more than bestWorth. */
         private void seekOn(Told told, int length) {
             if (mind.worth > bestWorth) {
                 bestWorth = mind.worth;
@@ -1132,12 +1127,14 @@ public final class AgesByMiles {
          * when the THING is come to at once or at END.
          */
         private int mostToCome(Told told) {
+            int latest = told.settings[END];
             int sum = 0;
             for (int i = 0; i < told.thingCount; i++) {
-                int soonest = mind.age + told.miles(mind.at, told.things[i].place);
-                if (mind.had[i] == 0 && soonest <= told.settings[END]) {
-                    int latest = told.settings[END];
-                    sum += Math.max(mind.worthThen(told, i, soonest), mind.worthThen(told, i, latest));
+                Thing thing = told.things[i];
+                int soonest = mind.age + told.miles(mind.at, thing.place);
+                if (mind.had[i] == 0 && soonest <= latest) {
+                    int soon = thing.worthThen(soonest, 0, told.settings);
+                    sum += Math.max(soon, thing.worthThen(latest, 0, told.settings));
                 }
             }
             return sum;

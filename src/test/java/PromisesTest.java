@@ -566,8 +566,10 @@ public final class PromisesTest {
         due("AGAIN once", again.best(1), -9);
         AgesByMiles end = with("w01,200;w12,200;to25,0;");
         due("up to END", end.best(-1), 5);
+        due("its THING", end.best(0), 0);
         end.set(2, 399);
         due("beyond END", end.best(-1), 0);
+        due("no THING", end.best(0), -9);
         AgesByMiles wait = with("w01,100;tg09,0;to11,0;");
         due("goes for 1 to be grown for 0", wait.best(0), 1);
         due("WORTH", wait.best(-1), 10);
@@ -578,6 +580,7 @@ public final class PromisesTest {
         due("of several the least", x.house(), 0);
         x.set(2, 299);
         due("both can not be had whole", x.house(), 0);
+        due("BEST by HOME is not changed", x.best(-1), 9);
         tell(x, "to39,0;");
         due("at 1, 2 and 3 is more", x.house(), 1);
         x.set(2, 199);
@@ -657,6 +660,7 @@ public final class PromisesTest {
         due("two, 40 miles, at 2", x.goes(40, 2, 2), 1);
         due("two, 60 miles, at 1", x.goes(60, 2, 1), 1);
         due("not to be come to", x.goes(999, 1, 3), 0);
+        due("999 miles, six", x.goes(999, 6, 1), 1);
         x.call(1, 0, 15);
         x.call(2, 1, 15);
         due("no less: goes", x.goes(40, 2, 1), 1);
@@ -672,6 +676,8 @@ public final class PromisesTest {
         due("a 1000", x.together(1000, 0), -6);
         due("b 1000", x.together(0, 1000), -6);
         due("no ORDER", x.together(0, 0), 0);
+        due("a 999", x.together(999, 0), 0);
+        due("b 999", x.together(0, 999), 0);
         x.order(5, 21301);
         due("all but 3: 1, 0, 1, 2", x.together(0, 0), 4);
         due("up to END", x.together(100, 0), 3);
@@ -781,6 +787,11 @@ public final class PromisesTest {
         due("k as PLACES", two.wells(2), 3);
         AgesByMiles far = with("n8;w01,200;w12,200;w23,200;w34,200;w45,200;w56,200;w67,200;");
         due("beyond 1000 is still to be come to", far.wells(1), 8);
+        // One well in the row of six and one at the lone PLACE: 1800; two in the row: 800 and 1000.
+        AgesByMiles lone = with("n7;w01,200;w12,200;w23,200;w34,200;w45,200;");
+        due("1000 and no more for none", lone.wells(2), 2 + 16);
+        AgesByMiles first = with("n7;w12,200;w23,200;w34,200;w45,200;w56,200;");
+        due("1000 and no less for none", first.wells(2), 1 + 8);
     }
 
     private static void promise25Many() {
@@ -932,6 +943,25 @@ public final class PromisesTest {
         due("END as then", x.set(2, 900), 900);
         tell(x, "5;");
         due("the tape goes on behind", x.count(0), 5);
+        AgesByMiles z = new AgesByMiles();
+        z.call(0, 1, 50);
+        z.person(0, 50);
+        z.image();
+        z.call(0, 1, 60);
+        due("on() once", z.on(), 4);
+        due("PAYS", z.calls(0, 1, 0), 50);
+        z.set(2, 49);
+        due("miles gone, beyond END", z.send(0, 0), -9);
+        z.set(2, 50);
+        due("miles gone, within END", z.send(0, 0), 0);
+        AgesByMiles t = new AgesByMiles();
+        t.image();
+        t.person(3, 999);
+        t.on();
+        t.person(1, 0);
+        t.image();
+        t.on();
+        due("another one's miles gone", t.send(1, 0), 0);
         AgesByMiles y = new AgesByMiles();
         y.image();
         due("a THING more", tell(y, "to05,0;"), 1);
