@@ -1,85 +1,10 @@
 // A test for each promise: ordinary inputs, the edges that the document names, and wrong inputs in their order.
-public final class PromisesTest {
-    private static int wrong = 0;
-    private static int looked = 0;
-
-    private static void due(String call, long got, long want) {
-        looked++;
-        if (got != want) {
-            wrong++;
-            System.out.println(call + " answered " + got + ", due is " + want);
-        }
-    }
-
-    /** Feeds a text, eight bytes at a time. */
-    private static void tape(AgesByMiles x, String text) {
-        for (int i = 0; i < text.length(); i += 8) {
-            int n = Math.min(8, text.length() - i);
-            long bytes = 0;
-            for (int k = n - 1; k >= 0; k--) {
-                bytes = bytes << 8 | text.charAt(i + k);
-            }
-            x.feed(n, bytes);
-        }
-    }
-
-    private static int tell(AgesByMiles x, String text) {
-        tape(x, text);
-        return x.land();
-    }
-
-    private static AgesByMiles with(String text) {
-        AgesByMiles x = new AgesByMiles();
-        due("land of " + text, tell(x, text) > 0 ? 1 : 0, 1);
-        return x;
-    }
-
-    private static long as(int refusal) {
-        return 4000000000000000000L - refusal;
-    }
-
+public final class PromisesTest extends Checks {
     public static void main(String[] args) {
-        promise1NewObject();
-        promise2Feed();
-        promise3LandBytes();
-        promise3LandStatements();
-        promise3LandPlacesToldOf();
-        promise3LandAllOrNothing();
-        promise4Far();
-        promise5Thing();
-        promise6Set();
-        promise7Go();
-        promise8Have();
-        promise9WorthAt();
-        promise10May();
-        promise11Life();
-        promise12NextLife();
-        promise13Order();
-        promise14LivedNearAndFar();
-        promise14LivedRoundAndSit();
-        promise15Best();
-        promise16House();
-        promise17Call();
-        promise18Calls();
-        promise19Goes();
-        promise20Together();
-        promise21Child();
-        promise22Person();
-        promise23Send();
-        promise24Wells();
-        promise25Many();
-        promise26Stray();
-        promise27Row();
-        promise28Judge();
-        promise29And30ImageAndOn();
-        promise31Count();
-        System.out.println(looked + " answers looked at, " + wrong + " not as due");
-        if (wrong != 0) {
-            System.exit(1);
-        }
+        runAll(PromisesTest.class);
     }
 
-    private static void promise1NewObject() {
+    static void promise1NewObject() {
         AgesByMiles x = new AgesByMiles();
         for (int what = 0; what <= 16; what++) {
             int want = what == 0 ? 4 : what == 9 || what == 10 ? -9 : 0;
@@ -96,7 +21,7 @@ public final class PromisesTest {
         due("new: HOME", x.set(3, 0), 0);
     }
 
-    private static void promise2Feed() {
+    static void promise2Feed() {
         AgesByMiles x = new AgesByMiles();
         due("feed(0)", x.feed(0, 0), -4);
         due("feed(least)", x.feed(Integer.MIN_VALUE, 0), -4);
@@ -130,7 +55,7 @@ public final class PromisesTest {
         }
     }
 
-    private static void promise3LandBytes() {
+    static void promise3LandBytes() {
         fault("", -1000);
         fault("x", -1000);
         fault("N4;", -1000);
@@ -170,7 +95,7 @@ public final class PromisesTest {
         due("64 bytes, the end lacks", full.land(), -1064);
     }
 
-    private static void promise3LandStatements() {
+    static void promise3LandStatements() {
         fault("n0;", -2000);
         fault("n1;", -2000);
         fault("n9;", -2000);
@@ -208,7 +133,7 @@ public final class PromisesTest {
         due("n" + (n + 1) + "; is enough", tell(x, "n" + (n + 1) + ";"), 1);
     }
 
-    private static void promise3LandPlacesToldOf() {
+    static void promise3LandPlacesToldOf() {
         needs(with("n8;w06,1;"), 6);
         needs(with("n8;w60,1;"), 6);
         needs(with("n8;to51,0;"), 5);
@@ -245,7 +170,7 @@ public final class PromisesTest {
         fault("n8;to71,0;n7;", -2010);
     }
 
-    private static void promise3LandAllOrNothing() {
+    static void promise3LandAllOrNothing() {
         AgesByMiles x = with("n5;w01,50;to110,0;");
         due("fault 2", tell(x, "n8;w02,9;to71,0;w02,9;"), -2016);
         due("places stay", x.count(0), 5);
@@ -262,7 +187,7 @@ public final class PromisesTest {
         due("the tape is none", x.land(), -1000);
     }
 
-    private static void promise4Far() {
+    static void promise4Far() {
         AgesByMiles x = with("n8;w01,200;w12,200;w23,200;w34,200;w45,200;w56,200;w67,200;");
         due("far(0, 7)", x.far(0, 7), 1400);
         due("far(7, 0)", x.far(7, 0), 1400);
@@ -281,7 +206,7 @@ public final class PromisesTest {
         due("two ways are shorter than one", z.far(0, 2), 150);
     }
 
-    private static void promise5Thing() {
+    static void promise5Thing() {
         AgesByMiles x = with("to011,900;ta12,1;tb23,1;ty34,5;tg05,6;tl16,7;");
         for (int i = 0; i < 6; i++) {
             due("kind of " + i, x.thing(i, 0), i);
@@ -298,7 +223,7 @@ public final class PromisesTest {
         due("thing(0, -1)", x.thing(0, -1), -2);
     }
 
-    private static void promise6Set() {
+    static void promise6Set() {
         AgesByMiles x = with("n5;w01,50;to110,0;");
         due("set(-1, -1)", x.set(-1, -1), -2);
         due("set(4, 1000)", x.set(4, 1000), -2);
@@ -325,7 +250,7 @@ public final class PromisesTest {
         due("the LIFE's AGE stays beyond END", x.life(1), 50);
     }
 
-    private static void promise7Go() {
+    static void promise7Go() {
         AgesByMiles x = with("w01,200;w12,200;");
         due("go(-1)", x.go(-1), -1);
         due("go(4)", x.go(4), -1);
@@ -343,7 +268,7 @@ public final class PromisesTest {
         due("refused -3", x.count(13), 4);
     }
 
-    private static void promise8Have() {
+    static void promise8Have() {
         AgesByMiles x = with("w01,60;to010,0;ta07,0;tb09,0;ty111,59;tg012,0;tl013,0;");
         due("have(-1)", x.have(-1), -1);
         due("have(6)", x.have(6), -1);
@@ -373,7 +298,7 @@ public final class PromisesTest {
         due("BEHIND an AGAIN", y.have(3), 7);
     }
 
-    private static void promise9WorthAt() {
+    static void promise9WorthAt() {
         AgesByMiles x = with("to011,0;ta099,0;tb09,0;ty011,50;tg012,0;tl013,0;");
         due("worthAt(6)", x.worthAt(6, -1, 21), -1);
         due("worthAt(-1)", x.worthAt(-1, 0, 0), -1);
@@ -408,7 +333,7 @@ public final class PromisesTest {
         due("LATE worth 0 gets no more", y.worthAt(0, 999, 0), 0);
     }
 
-    private static void promise10May() {
+    static void promise10May() {
         AgesByMiles x = with("w01,60;to10,0;ta02,0;tb01,1;");
         due("may(3)", x.may(3), -1);
         due("may(-1)", x.may(-1), -1);
@@ -424,7 +349,7 @@ public final class PromisesTest {
         due("BEHIND, elsewhere", x.may(2), 0);
     }
 
-    private static void promise11Life() {
+    static void promise11Life() {
         AgesByMiles x = with("w01,100;w12,200;to15,0;");
         due("life(5)", x.life(5), -2);
         due("life(-1)", x.life(-1), -2);
@@ -444,7 +369,7 @@ public final class PromisesTest {
         due("OLD below OLD", x.life(4), 0);
     }
 
-    private static void promise12NextLife() {
+    static void promise12NextLife() {
         AgesByMiles x = with("w01,100;to15,0;ta14,0;");
         due("nothing had", x.nextLife(), 0);
         x.go(1);
@@ -460,7 +385,7 @@ public final class PromisesTest {
         due("had 1", x.thing(1, 4), 0);
     }
 
-    private static void promise13Order() {
+    static void promise13Order() {
         AgesByMiles x = with("n5;");
         due("n -1", x.order(-1, -1), -4);
         due("n 9", x.order(9, -1), -6);
@@ -480,7 +405,7 @@ public final class PromisesTest {
         due("the lowest first, 2", y.lived(2, 1), 110);
     }
 
-    private static void promise14LivedNearAndFar() {
+    static void promise14LivedNearAndFar() {
         AgesByMiles x = with("n5;w01,10;w02,20;w03,20;to15,0;to26,0;to37,0;");
         due("kind -1", x.lived(-1, 0), -2);
         due("kind 4", x.lived(4, 0), -2);
@@ -510,7 +435,7 @@ public final class PromisesTest {
         due("what is cut to 0 there is not gone to", late.lived(0, 1), 0);
     }
 
-    private static void promise14LivedRoundAndSit() {
+    static void promise14LivedRoundAndSit() {
         AgesByMiles x = with("w01,10;w02,20;ta08,0;to15,0;");
         due("SIT", x.lived(3, 0), 8);
         due("SIT's AGE", x.lived(3, 1), 0);
@@ -531,7 +456,7 @@ public final class PromisesTest {
         due("and is there when grown", zero.lived(2, 0), 5);
     }
 
-    private static void promise15Best() {
+    static void promise15Best() {
         AgesByMiles x = with("w01,100;w12,100;ty09,0;to25,0;tb17,1;tg03,0;");
         due("best(-2)", x.best(-2), -4);
         due("best(least)", x.best(Integer.MIN_VALUE), -4);
@@ -575,7 +500,7 @@ public final class PromisesTest {
         due("WORTH", wait.best(-1), 10);
     }
 
-    private static void promise16House() {
+    static void promise16House() {
         AgesByMiles x = with("w01,100;w12,100;w23,100;to35,0;ty09,50;");
         due("of several the least", x.house(), 0);
         x.set(2, 299);
@@ -593,7 +518,7 @@ public final class PromisesTest {
         due("empty", new AgesByMiles().house(), 0);
     }
 
-    private static void promise17Call() {
+    static void promise17Call() {
         AgesByMiles x = new AgesByMiles();
         due("call(-1)", x.call(-1, -1, 100), -1);
         due("call(4)", x.call(4, -1, 100), -1);
@@ -609,7 +534,7 @@ public final class PromisesTest {
         due("below the line", x.calls(0, 1, 1), 7);
     }
 
-    private static void promise18Calls() {
+    static void promise18Calls() {
         AgesByMiles x = with("n8;w01,10;w02,20;w03,30;");
         due("part -1", x.calls(-1, 7, -1), as(-2));
         due("part 2", x.calls(-1, 7, 2), as(-2));
@@ -644,7 +569,7 @@ public final class PromisesTest {
         due("six, below", x.calls(999, 6, 1), 4);
     }
 
-    private static void promise19Goes() {
+    static void promise19Goes() {
         AgesByMiles x = with("w01,10;w02,20;");
         due("goes(-1)", x.goes(-1, 0, -1), -1);
         due("goes(4)", x.goes(1000, 9, 4), -1);
@@ -669,7 +594,7 @@ public final class PromisesTest {
         due("a place without WEIGHT, one", x.goes(40, 1, 1), 1);
     }
 
-    private static void promise20Together() {
+    static void promise20Together() {
         AgesByMiles x = with("w01,100;w12,100;");
         due("a -1", x.together(-1, 1000), -4);
         due("b -1", x.together(1000, -1), -4);
@@ -699,7 +624,7 @@ public final class PromisesTest {
         due("one beyond END is walked to all the same", z.together(0, 0), 0);
     }
 
-    private static void promise21Child() {
+    static void promise21Child() {
         AgesByMiles x = new AgesByMiles();
         due("a -1", x.child(-1, 1000, 0), -4);
         due("b -1", x.child(0, -1, 1000), -4);
@@ -723,7 +648,7 @@ public final class PromisesTest {
         }
     }
 
-    private static void promise22Person() {
+    static void promise22Person() {
         AgesByMiles x = new AgesByMiles();
         due("person(4)", x.person(4, -1), -1);
         due("person(-1)", x.person(-1, 1000), -1);
@@ -738,7 +663,7 @@ public final class PromisesTest {
         due("PEOPLE", x.count(3), 4);
     }
 
-    private static void promise23Send() {
+    static void promise23Send() {
         AgesByMiles x = with("n6;w01,10;w12,10;w23,10;");
         due("send(6)", x.send(6, 9), -1);
         due("send(-1)", x.send(-1, 0), -1);
@@ -771,7 +696,7 @@ public final class PromisesTest {
         due("of two alike the least", x.send(1, 0), 0);
     }
 
-    private static void promise24Wells() {
+    static void promise24Wells() {
         AgesByMiles x = with("n5;w01,10;w12,10;w23,10;");
         due("k 0", x.wells(0), -4);
         due("k -5", x.wells(-5), -4);
@@ -794,7 +719,7 @@ public final class PromisesTest {
         due("1000 and no less for none", first.wells(2), 1 + 8);
     }
 
-    private static void promise25Many() {
+    static void promise25Many() {
         AgesByMiles x = new AgesByMiles();
         due("n -1", x.many(-1, 10, 10, 16), as(-4));
         due("b -1", x.many(1000, -1, 10, 16), as(-4));
@@ -816,7 +741,7 @@ public final class PromisesTest {
         due("s 9", x.many(1, 1, 9, 9), 2);
     }
 
-    private static void promise26Stray() {
+    static void promise26Stray() {
         AgesByMiles x = with("n2;w01,1;ta08,0;to15,0;tg190,0;");
         due("n 0", x.stray(0, 1), -4);
         due("n 41", x.stray(41, 1), -6);
@@ -837,7 +762,7 @@ public final class PromisesTest {
         due("till nothing is left", y.stray(40, 7), 127);
     }
 
-    private static void promise27Row() {
+    static void promise27Row() {
         AgesByMiles x = new AgesByMiles();
         due("row(-1)", x.row(-1), -4);
         due("row(10)", x.row(10), -6);
@@ -858,7 +783,7 @@ public final class PromisesTest {
         return answer;
     }
 
-    private static void promise28Judge() {
+    static void promise28Judge() {
         AgesByMiles x = with("n5;w01,100;w12,100;");
         x.row(1);
         due("judge(2)", x.judge(2), -2);
@@ -888,7 +813,7 @@ public final class PromisesTest {
         due("the LIFE at hand stays", x.life(1), 0);
     }
 
-    private static void promise29And30ImageAndOn() {
+    static void promise29And30ImageAndOn() {
         AgesByMiles x = with("n5;w01,50;to110,0;ta18,0;");
         due("on() without image", x.on(), -3);
         x.set(0, 1);
@@ -974,7 +899,7 @@ public final class PromisesTest {
         due("it is there", y.thing(0, 0), 1);
     }
 
-    private static void promise31Count() {
+    static void promise31Count() {
         AgesByMiles x = with("n6;w01,50;w02,50;to01,0;to01,0;ta08,0;");
         x.order(3, 123);
         x.call(1, 4, 1);
