@@ -179,8 +179,8 @@ public final class CounselBoundsTest extends Checks {
         AgesByMiles seven = with("w23,1;to31,0;to31,0;to31,0;to31,0;to31,0;to31,0;to36,0;");
         seven.set(2, 1);
         due("all seven at 3, and at 2 by a mile", seven.house(), 2);
-        AgesByMiles last = with("to31,0;to31,0;to31,0;to31,0;to31,0;to31,0;to31,0;");
-        due("all seven at 3", last.house(), 3);
+        AgesByMiles last = with("w23,1;to21,0;to21,0;to21,0;to21,0;to21,0;to21,0;ty31,0;");
+        due("all seven from 3 alone", last.house(), 3);
     }
 
     static void promise16WhicheverHomeIs() {
@@ -535,6 +535,20 @@ public final class CounselBoundsTest extends Checks {
         due("2, then 1", x.together(0, 0), 1);
         x.order(2, 21);
         due("1, then 2", x.together(0, 0), 0);
+    }
+
+    static void promise20FromHome() {
+        AgesByMiles x = with("w01,100;w12,100;");
+        x.order(2, 10);
+        due("from 0", x.together(201, 0), 2);
+        x.set(3, 2);
+        due("from 2", x.together(201, 0), 0);
+        due("from 2", x.together(200, 0), 1);
+        x.set(3, 3);
+        due("none can be come to", x.together(0, 0), 0);
+        x.go(1);
+        x.set(3, 0);
+        due("not from where the LIFE at hand is", x.together(0, 300), 2);
     }
 
     static void promise20EightPlacesBeyondAllMiles() {

@@ -403,10 +403,13 @@ public final class LandBoundsTest extends Checks {
 
     static void promise3NotFewerThanPeopleTellOf() {
         for (int place = 2; place < 8; place++) {
-            AgesByMiles x = with("n8;");
-            x.person(place, 0);
-            x.person(0, 0);
-            needsMoreThan(x, place);
+            for (int number = 0; number < 4; number++) {
+                AgesByMiles x = with("n8;");
+                for (int i = 0; i < 4; i++) {
+                    x.person(i == number ? place : 1, 0);
+                }
+                needsMoreThan(x, place);
+            }
         }
     }
 
@@ -456,6 +459,22 @@ public final class LandBoundsTest extends Checks {
             needsMoreThan(x, place);
             x.nextLife();
             landHere(x, "n2;", 1);
+        }
+    }
+
+    /** Each of the seven that tell of a PLACE has the farthest once, and the others' are nearer. */
+    static void promise3NotFewerThanTheFarthestOfAllTellsOf() {
+        for (int farthest = 0; farthest < 7; farthest++) {
+            int[] places = {1, 2, 1, 2, 1, 2, 1};
+            places[farthest] = 6;
+            AgesByMiles x = with("n8;w0" + places[0] + ",1;to" + places[1] + "0,0;");
+            x.set(3, places[6]);
+            x.nextLife();
+            x.set(3, places[2]);
+            x.person(places[3], 0);
+            x.order(1, places[4]);
+            x.call(places[5], 1, 0);
+            needsMoreThan(x, 6);
         }
     }
 
@@ -591,6 +610,10 @@ public final class LandBoundsTest extends Checks {
         landHere(x, "to01,0;", -2000);
         landHere(x, "w01,5;n4;tl01,0;", -2009);
         due("WAYS stay", x.count(1), 0);
+        landHere(x, "n4;", 1);
+        due("all of them stay", x.thing(6, 0), 2);
+        due("and what the last asks", x.thing(6, 3), 5);
+        due("no eighth", x.thing(7, 0), -1);
         landOf(six + "to01,0;", 7);
         landOf(six + "to01,0;to01,0;", -2049);
     }

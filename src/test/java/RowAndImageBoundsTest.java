@@ -313,6 +313,17 @@ public final class RowAndImageBoundsTest extends Checks {
         due("its KIND", x.thing(1, 0), 2);
     }
 
+    static void promise30AllSevenThingsAreInIt() {
+        AgesByMiles x = with("to01,0;ta02,0;ty03,0;tg04,0;tl05,0;to06,0;tb07,5;");
+        x.image();
+        tell(x, "n8;");
+        x.on();
+        for (int thing = 0; thing < 7; thing++) {
+            due("WORTH", x.thing(thing, 2), thing + 1);
+        }
+        due("BEST", x.best(-1), 1 + 2 + 3 + 0 + 0 + 6 + 7);
+    }
+
     static void promise30ThePaysAreInIt() {
         AgesByMiles x = new AgesByMiles();
         x.call(0, 1, 7);
