@@ -104,7 +104,7 @@ public final class ReadmeTest {
         int code) throws IOException, InterruptedException {
         Files.writeString(own, String.format(ownTest, "OwnTest"));
         Files.writeString(shared, String.format(sharedTest, "SharedRuns"));
-        due(CI + "'s exit code when " + when, run(here, "SHARED=other " + CI).code, code);
+        due(CI + "'s exit code when " + when, run(here, "SHARED=other bash " + CI).code, code);
     }
 
     private static List<String> blocks(String readme, String language) {
